@@ -31,6 +31,7 @@ public final class PromiseTest {
         runDown();
         row();
         asked();
+        askedOnAndOn();
         says();
         oddsAndShare();
         bestAndMoved();
@@ -147,6 +148,14 @@ public final class PromiseTest {
         due("feed again", x.feed(-1, -1, -1, -1, -1), 20);
         due("bytes above 127 can't stand", x.why(20), -9);
         due("at 0", x.fault(), 0);
+        feedText(x, ";".repeat(300));
+        due("300 signs", x.why(300), -9);
+        feedText(x, ";1".repeat(150));
+        due("a number at the end", x.why(300), -9);
+        feedText(x, "1".repeat(300));
+        due("300 digits", x.why(300), -9);
+        feedText(x, "a".repeat(300));
+        due("300 letters", x.why(300), -9);
         x.feed(0x73657420, 0x3520333b, 0, 0, 0);
         due("highest byte first", x.why(8), 1);
     }
@@ -170,12 +179,40 @@ public final class PromiseTest {
         due("a 7th has no FAULT", x.fault(), -1);
         due("a 7th with a FAULT", tell(x, "sat;"), -9);
         due("six stay", x.count(0), 6);
+        cut("set 5 34;", 7, 1, 7);
+        cut("sets", 3, 1, 3);
+        cut("leak 6 10 from 3;", 12, 1, 10);
+        latest();
         fine("");
         fine("   ");
         fine("leak 0 0 from 0;");
         fine("leak7 99from99;");
         fine("  leak  0  00000000000000000000007  from  003  ;  ");
         fine("set 9 999;set 7 9999;set 1 999;set 2 999;set 0 99;set 3 99;set 4 99;set 5 1;set 6 99;set 8 99;");
+    }
+
+    /** Bytes behind the first n are no matter. */
+    private static void cut(String text, int n, int fault, int place) {
+        MastSparks x = new MastSparks();
+        feedText(x, text);
+        due(n + " bytes of <" + text + ">", x.why(n), fault - 10);
+        due("its place", x.fault(), place);
+    }
+
+    /** Nothing of an earlier text is left in a later one. */
+    private static void latest() {
+        MastSparks x = new MastSparks();
+        tell(x, "leak 4 10 from 0;leak 5 10 from 0;spark 4 if 1=1;spark 5 if 1=1;oh");
+        due("the FAULT", x.fault(), 64);
+        due("a short one behind it", tell(x, "leak 4 10 from 0;"), 0);
+        due("no FAULT any more", x.fault(), -1);
+        due("leaks once", x.state(0, 0, 5), 790);
+        due("sparks never", x.run(0, 0), -1);
+        String full = "leak 4 1 from 0;".repeat(14);
+        due("14 CLAUSES", tell(x, full), 1);
+        due("14 leaks", x.state(1, 0, 5), 786);
+        due("none", tell(x, ""), 2);
+        due("no leaks", x.state(2, 99, 5), 800);
     }
 
     // Promise 4, FAULT 1
@@ -199,6 +236,8 @@ public final class PromiseTest {
         faultDue("spark 6 iff gap>1;", 1, 8);
         faultDue("spark 1 if gap;", 1, 14);
         faultDue("spark 1 if gaps>1;", 1, 11);
+        faultDue("spark 1 if gapz>1;", 1, 11);
+        faultDue("spark 1 if gapa>1;", 1, 11);
         faultDue("spark 1 if gap<=1;", 1, 15);
         faultDue("spark 1 if gap>1 or;", 1, 19);
         faultDue("spark 1 if gap>1 orgap>2;", 1, 17);
@@ -292,6 +331,13 @@ public final class PromiseTest {
         holdsDue("not 1=2 and 1=2", 5, false);
         holdsDue("not [1=2 and 1=2]", 5, true);
         holdsDue("not not 1=1", 5, true);
+        due("not", with("leak 3 1 from 0;spark 3 if not 1=2;").run(0, 0), 0);
+        due("not", with("leak 3 1 from 0;spark 3 if not 1=1;").run(0, 0), -1);
+        due("not not", with("leak 3 1 from 0;spark 3 if not not 1=1;").run(0, 0), 0);
+        due("not not", with("leak 3 1 from 0;spark 3 if not not 1=2;").run(0, 0), -1);
+        due("not, or", with("leak 3 1 from 0;spark 3 if not 2=2 or not not 1=1;").run(0, 0), 0);
+        due("deep", with("leak 3 1 from 0;spark 3 if 1=2 or 1=1 and [1=2 or 1=1 and [1=2 or 1=1 and [1=2 or 1=1 and [1=2 or 1=1"
+                + " and 0<1*(1+1*9)]]]];").run(0, 0), 0);
         holdsDue("second=5", 5, true);
         holdsDue("wet=12", 5, true);
         holdsDue("gap=0", 8, true);
@@ -302,6 +348,11 @@ public final class PromiseTest {
         holdsDue("fire=0", 5, true);
         due("fire of an earlier spark in the same SECOND",
                 with("leak 2 5 from 0;leak 3 5 from 0;spark 3 if second=4;spark 2 if fire=1;").cell(0, 4, 2, 2), -1);
+        MastSparks two = with("leak 2 5 from 0;leak 5 5 from 0;spark 2 if second=7;spark 5 if not fire=1 and second=4;");
+        due("the condition of the second spark", two.run(0, 0), 4);
+        due("and its CELL", two.run(0, 1), 5);
+        due("fire holds on", with("leak 2 5 from 0;spark 2 if second=4;spark 2 if fire>0;").cell(0, 9, 2, 2), 4);
+        due("fire is 1", with("leak 2 5 from 0;spark 2 if fire*2=1 or second*fire>3 or second=6;").run(0, 0), 6);
         due("height as it is ahead of sinking",
                 with("leak 3 1 from 0;set 7 9999;spark 3 if height=84;").run(0, 0), 1);
     }
@@ -397,6 +448,8 @@ public final class PromiseTest {
         throwsDue("SECOND -1", WRONG, () -> x.cell(0, -1, 0, 0));
         throwsDue("what 3", WRONG, () -> x.cell(0, 0, 0, 3));
         throwsDue("what -1", WRONG, () -> x.cell(0, 0, 0, -1));
+        due("SECOND 0", x.cell(0, 0, 7, 1), 10);
+        due("SECOND 99", x.cell(0, 99, 7, 1), 0);
         throwsDue("WHY, CELL, SECOND", NO_WHY, () -> x.cell(1, 100, 8, 3));
         throwsDue("CELL, SECOND", NO_INDEX, () -> x.cell(0, 100, 8, 3));
     }
@@ -428,6 +481,8 @@ public final class PromiseTest {
         due("BEGAN", x.run(2, 0), 3);
         due("of several the least", x.run(2, 1), 2);
         due("leaks go ahead of sparks", x.run(3, 0), 3);
+        MastSparks later = with("leak 5 9 from 3;leak 2 9 from 3;spark 5 if second>3;spark 2 if second>4;");
+        due("BEGAN in another CELL", later.run(0, 1), 5);
         due("the last set counts", x.state(4, 0, 1), 250);
     }
 
@@ -499,6 +554,18 @@ public final class PromiseTest {
         due("9 years", x.asked(0, 9), 2);
         due("10 years", x.asked(0, 10), 3);
         due("they count", x.odds(0), 130);
+        x.image();
+        x.row(0, 11, 7, 1, 0);
+        x.asked(1, 80);
+        due("of each ROW", x.odds(0), 1040);
+        x.restore();
+        x.row(0, 11, 7, 1, 0);
+        due("0 at first", x.odds(0), 130 * 16);
+    }
+
+    private static void askedOnAndOn() {
+        MastSparks x = with(LEAK_AND_GAP);
+        x.row(0, 11, 7, 1, 2);
         due("59 years", x.asked(0, 59), 7);
         due("60 years", x.asked(0, 60), 8);
         due("8 at most", x.asked(0, 99), 8);
@@ -575,6 +642,9 @@ public final class PromiseTest {
         }
         due("odds by landings", x.odds(2), 99L << 30);
         due("still as many", x.share(2), 908);
+        MastSparks z = with(LEAK_AND_GAP, "");
+        z.before(2, 200);
+        due("share by landings", z.share(0), 5 * 1000 / 15);
         MastSparks y = with(LEAK_AND_GAP);
         y.before(2, 200);
         y.before(2, 200);
@@ -682,12 +752,22 @@ public final class PromiseTest {
         MastSparks x = lastedFour();
         due("safe for as long", x.safe(0, 0, 4) ? 1 : 0, 1);
         due("not for longer", x.safe(0, 0, 5) ? 1 : 0, 0);
+        due("safe for 0", x.safe(0, 0, 0) ? 1 : 0, 1);
+        due("not for 99", x.safe(0, 0, 99) ? 1 : 0, 0);
         due("option", x.option(0, 0, 50), 0);
         due("option", x.option(0, 2, 999), 1);
         due("option", x.option(8, 0, 0), 2);
         due("no rain", x.safe(0, 1, 99) ? 1 : 0, 1);
         due("the later one counts", x.safe(0, 3, 5) ? 1 : 0, 0);
         due("sets go behind options", x.safe(0, 4, 5) ? 1 : 0, 0);
+        MastSparks y = with("leak 0 99 from 0;spark 0 if second=0;set 7 9999;",
+                "leak 0 99 from 0;spark 0 if second=50;set 7 9999;set 8 1;set 9 101;",
+                "leak 0 99 from 0;spark 0 if second=50;set 7 9999;set 8 1;set 9 100;");
+        due("fire in SECOND 0", y.safe(0, 0, 14) ? 1 : 0, 1);
+        due("fire in SECOND 0", y.safe(0, 0, 15) ? 1 : 0, 0);
+        due("not DOWN by SECOND 99", y.safe(1, 0, 99) ? 1 : 0, 1);
+        due("DOWN in SECOND 99", y.safe(2, 0, 50) ? 1 : 0, 0);
+        due("DOWN in SECOND 99", y.safe(2, 0, 49) ? 1 : 0, 1);
         due("the LANDING stays", x.count(10), 2);
         throwsDue("bits of no OPTION", WRONG, () -> x.safe(0, 8, 1));
         throwsDue("negative bits", WRONG, () -> x.safe(0, -1, 1));
@@ -713,6 +793,9 @@ public final class PromiseTest {
         due("all of none", new MastSparks().all(99), 0);
         MastSparks x = lastedFour();
         due("nothing needed", x.least(0, 4), 0);
+        due("nothing for 0", x.least(0, 0), 0);
+        due("nothing for all for 0", x.all(0), 0);
+        due("a cost of 0", x.all(4), 0);
         due("by none", x.least(0, 5), -1);
         due("all by none", x.all(5), -1);
         x.option(0, 0, 50);
@@ -730,10 +813,12 @@ public final class PromiseTest {
         due("the third is never DOWN from so high", x.least(2, 15), 8);
         due("all, for a while", x.all(15), 8);
         due("all, for longer, need two", x.all(99), 10);
+        due("six", tell(x, "") + tell(x, "") + tell(x, ""), 3 + 4 + 5);
+        due("all six", x.all(99), 10);
         throwsDue("SECONDS 100", WRONG, () -> x.least(0, 100));
         throwsDue("SECONDS -1", WRONG, () -> x.least(0, -1));
-        throwsDue("no WHY", NO_WHY, () -> x.least(3, 0));
-        throwsDue("no WHY goes first", NO_WHY, () -> x.least(3, 100));
+        throwsDue("no WHY", NO_WHY, () -> x.least(6, 0));
+        throwsDue("no WHY goes first", NO_WHY, () -> x.least(6, 100));
         throwsDue("SECONDS 100", WRONG, () -> x.all(100));
         throwsDue("SECONDS -1", WRONG, () -> x.all(-1));
     }
@@ -755,6 +840,20 @@ public final class PromiseTest {
         y.weigh(0, 30);
         y.weigh(1, 50);
         due("the least of the greater", y.next(0), 5);
+        due("SECOND 99", y.next(99), 0);
+        MastSparks z = with("leak 4 1 from 0;spark 4 if wet>0;", "leak 5 1 from 0;spark 5 if 1=1;", "");
+        z.weigh(0, 20);
+        z.weigh(1, 15);
+        due("without landings", z.next(0), 4);
+        z.weigh(1, 30);
+        z.weigh(2, 10);
+        due("still without", z.next(0), 5);
+        for (int i = 0; i < 5; i++) {
+            z.before(0, 0);
+        }
+        due("with landings", z.next(0), 4);
+        due("six", tell(z, "") + tell(z, "") + tell(z, ""), 3 + 4 + 5);
+        due("next of six", z.next(0), 4);
     }
 
     // Promise 26
@@ -772,6 +871,11 @@ public final class PromiseTest {
         throwsDue("no other", NO_WHY, () -> x.parted(0, -1));
         MastSparks y = with("leak 3 9 from 0;spark 3 if 1=1;set 6 0;", "leak 3 9 from 0;spark 3 if 1=1;set 5 3;set 6 0;");
         due("fire alone", y.parted(0, 1), 2);
+        MastSparks z = with("leak 0 9 from 0;spark 0 if second=4;set 6 9;", "leak 0 9 from 0;spark 0 if second=4;set 6 8;",
+                "leak 0 9 from 3;", "leak 0 9 from 4;", "set 9 80;set 7 800;leak 5 1 from 9;", "set 9 80;leak 5 1 from 9;");
+        due("gas alone", z.parted(0, 1), 4);
+        due("CELL 0", z.parted(2, 3), 3);
+        due("HEIGHT behind a while", z.parted(4, 5), 9);
     }
 
     // Promise 27
@@ -801,8 +905,12 @@ public final class PromiseTest {
         due("sets LEADS and burns", x.dry(3), -1);
         due("sets LEADS and does not", x.dry(4), 0);
         due("not only the greatest", x.dry(5), 0);
+        due("fire in the SECOND from which they lead", with("leak 7 10 from 0;spark 7 if gap>0 and second<50;").dry(0), 101);
+        due("great LEADS", with("leak 7 10 from 0;spark 7 if gap>0 and second<99;set 0 10;").dry(0), 991);
         x.set(0, 0);
         due("no rain", x.dry(0), 1);
+        x.set(0, 1);
+        due("a little rain", x.dry(0), 99);
         x.set(0, 99);
         due("too much rain", x.dry(0), -1);
         x.set(0, 10);
