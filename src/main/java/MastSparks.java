@@ -127,13 +127,15 @@ public final class MastSparks {
             throw new IllegalArgumentException("so many bytes are not on the TAPE");
         }
         taped = 0;
+        if (told >= MOST_WHYS) {
+            // Whatever its bytes are, it is not read: so it has no FAULT.
+            faultPlace = NONE;
+            return NONE;
+        }
         int fault = reader.read(tape, n);
         faultPlace = reader.faultPlace;
         if (fault != FAULT_NONE) {
             return fault - 10;
-        }
-        if (told >= MOST_WHYS) {
-            return NONE;
         }
         whys[told].copyFrom(reader.draft);
         told++;
@@ -1205,9 +1207,9 @@ public final class MastSparks {
             }
             if (sum < numbers[LIFT]) {
                 height = Math.max(0, height - numbers[SINK]);
-            }
-            if (height == 0 && down == NONE) {
-                down = second;
+                if (height == 0 && down == NONE) {
+                    down = second;
+                }
             }
         }
 

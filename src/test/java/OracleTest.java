@@ -102,7 +102,11 @@ public final class OracleTest {
         return k == 0 ? -1 : k == 1 ? most + 1 : k == 2 ? r.nextInt() : r.nextInt(most + 1);
     }
 
+    /** The least and the most of a number come often: much is decided at these. */
     private static int aboutNumber(Random r, int which) {
+        if (which >= 0 && which <= 9 && r.nextInt(5) == 0) {
+            return r.nextBoolean() ? 0 : Model.HIGH[which];
+        }
         return which < 0 || which > 9 ? r.nextInt(50) : r.nextInt(3) == 0 ? about(r, Model.HIGH[which])
                 : about(r, Math.min(Model.HIGH[which], 2 + 2 * Model.FIRST[which]));
     }
@@ -686,11 +690,11 @@ public final class OracleTest {
             String text = tape.substring(0, n);
             tape = new StringBuilder();
             fault = -1;
+            if (whys.size() == 6) {
+                return -1;
+            }
             try {
                 List<Clause> clauses = new Parser(text).clauses();
-                if (whys.size() == 6) {
-                    return -1;
-                }
                 whys.add(clauses);
                 now.weights.add(10);
                 return whys.size() - 1;
@@ -745,7 +749,7 @@ public final class OracleTest {
             for (int s = 0; s < 100; s++) {
                 m.second = s;
                 second(m, clauses, p);
-                if (m.height == 0 && course.down < 0) {
+                if (m.allGas() < p[7] && m.height == 0 && course.down < 0) {
                     course.down = s;
                 }
                 course.moments.add(m.copy());

@@ -177,8 +177,7 @@ public final class PromiseTest {
         due("a 7th", x.why(8), -1);
         due("the TAPE is empty", x.count(5), 0);
         due("a 7th has no FAULT", x.fault(), -1);
-        due("a 7th with a FAULT", tell(x, "sat;"), -9);
-        due("six stay", x.count(0), 6);
+        sevenths();
         cut("set 5 34;", 7, 1, 7);
         cut("sets", 3, 1, 3);
         cut("leak 6 10 from 3;", 12, 1, 10);
@@ -189,6 +188,27 @@ public final class PromiseTest {
         fine("leak7 99from99;");
         fine("  leak  0  00000000000000000000007  from  003  ;  ");
         fine("set 9 999;set 7 9999;set 1 999;set 2 999;set 0 99;set 3 99;set 4 99;set 5 1;set 6 99;set 8 99;");
+    }
+
+    /** There are 6, whatever the bytes of a 7th are: it has no FAULT, and its bytes are gone. */
+    private static void sevenths() {
+        String tooMany = "set 5 3;".repeat(15);
+        for (String text : new String[] {"", "set 5 3;", "sat;", "\u0000", "set 5 99;", tooMany}) {
+            MastSparks x = new MastSparks();
+            due("a FAULT", tell(x, "set 5 0;"), -8);
+            for (int i = 0; i < 5; i++) {
+                due("why " + i, x.why(0), i);
+            }
+            due("a FAULT with 5", tell(x, "sat;"), -9);
+            due("its place", x.fault(), 0);
+            due("the 6th", x.why(0), 5);
+            due("a 7th <" + text + ">", tell(x, text), -1);
+            due("a 7th <" + text + "> has no FAULT", x.fault(), -1);
+            due("the TAPE is empty", x.count(5), 0);
+            throwsDue("a 7th of too many bytes", WRONG, () -> x.why(1));
+            throwsDue("a 7th of -1 bytes", WRONG, () -> x.why(-1));
+            due("six stay", x.count(0), 6);
+        }
     }
 
     /** Bytes behind the first n are no matter. */
@@ -514,9 +534,32 @@ public final class PromiseTest {
         due("BEGAN behind DOWN", x.run(2, 0), 50);
         due("LASTED is none", x.run(2, 3), -1);
         due("LASTED 0", x.run(3, 3), 0);
-        due("HEIGHT 0 at first", x.run(4, 2), 0);
+        due("HEIGHT 0 at first, but held", x.run(4, 2), -1);
         due("SINK 0", x.run(5, 2), -1);
         due("all goes on behind DOWN", x.state(2, 60, 7), 6);
+        downHeld();
+    }
+
+    /** All of (g) asks for gas below LIFT: HEIGHT 0 alone is not DOWN. */
+    private static void downHeld() {
+        MastSparks x = with("", "set 7 801;", "leak 3 20 from 7;set 7 780;", "leak 3 20 from 7;set 7 781;set 8 0;",
+                "leak 3 20 from 7;spark 3 if second>4;set 7 750;", "set 7 800;");
+        x.set(9, 0);
+        due("held", x.run(0, 2), -1);
+        due("HEIGHT 0 all the same", x.state(0, 0, 4), 0);
+        due("not held", x.run(1, 2), 0);
+        due("held from the second leak on", x.run(2, 2), 8);
+        due("SINK 0 is no matter", x.run(3, 2), 7);
+        due("BEGAN ahead of it", x.run(4, 0), 7);
+        due("held for a while by what burns", x.run(4, 2), 8);
+        due("LASTED", x.run(4, 3), 1);
+        due("LIFT itself", x.run(5, 2), -1);
+        x.row(2, 0, 0, 0, 0);
+        due("a ROW of it, held", x.says(0, 0) ? 1 : 0, 0);
+        due("a ROW of it, not held", x.says(1, 0) ? 1 : 0, 1);
+        due("SAFE by LASTED", x.safe(4, 0, 2) ? 1 : 0, 0);
+        x.option(7, 0, 1);
+        due("a set goes behind it", x.safe(4, 1, 2) ? 1 : 0, 0);
     }
 
     // Promise 11
