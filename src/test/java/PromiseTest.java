@@ -1,16 +1,7 @@
-import java.util.NoSuchElementException;
-import java.util.concurrent.Callable;
-
 /** Each promise of the document on runs that were worked by hand: ordinary inputs, named edges, wrong inputs. */
-public final class PromiseTest {
+public final class PromiseTest extends Checks {
     private static final String LEAK_AND_GAP = "leak 7 10 from 0;spark 7 if gap>30;";
     private static final String AT_ONCE = "leak 0 99 from 0;spark 0 if mixed>0;";
-    private static final Class<?> NO_WHY = NoSuchElementException.class;
-    private static final Class<?> NO_INDEX = IndexOutOfBoundsException.class;
-    private static final Class<?> WRONG = IllegalArgumentException.class;
-
-    private static int passed = 0;
-    private static int failed = 0;
 
     public static void main(String[] args) throws Exception {
         newObject();
@@ -45,77 +36,7 @@ public final class PromiseTest {
         dry();
         images();
         count();
-        System.out.println("PromiseTest: " + passed + " passed, " + failed + " failed");
-        if (failed != 0) {
-            System.exit(1);
-        }
-    }
-
-    private static void due(String what, long got, long want) {
-        if (got == want) {
-            passed++;
-        } else {
-            failed++;
-            System.out.println(what + " answered " + got + ", due is " + want);
-        }
-    }
-
-    private static void throwsDue(String what, Class<?> want, Callable<?> call) {
-        String got = "nothing";
-        try {
-            call.call();
-        } catch (Exception e) {
-            got = e.getClass().getSimpleName();
-        }
-        if (got.equals(want.getSimpleName())) {
-            passed++;
-        } else {
-            failed++;
-            System.out.println(what + " threw " + got + ", due is " + want.getSimpleName());
-        }
-    }
-
-    private static void feedText(MastSparks x, String text) {
-        int[] n = new int[5];
-        for (int from = 0; from < text.length(); from += 20) {
-            for (int i = 0; i < 5; i++) {
-                n[i] = 0;
-                for (int k = 0; k < 4; k++) {
-                    int at = from + i * 4 + k;
-                    n[i] = n[i] << 8 | (at < text.length() ? text.charAt(at) & 255 : 0);
-                }
-            }
-            x.feed(n[0], n[1], n[2], n[3], n[4]);
-        }
-    }
-
-    private static int tell(MastSparks x, String text) {
-        feedText(x, text);
-        return x.why(text.length());
-    }
-
-    private static MastSparks with(String... texts) {
-        MastSparks x = new MastSparks();
-        for (String text : texts) {
-            if (tell(x, text) < 0) {
-                failed++;
-                System.out.println("not taken: " + text + " at " + x.fault());
-            }
-        }
-        return x;
-    }
-
-    private static void faultDue(String text, int fault, int place) {
-        MastSparks x = new MastSparks();
-        due("why of <" + text + ">", tell(x, text), fault - 10);
-        due("fault of <" + text + ">", x.fault(), place);
-        due("WHYS behind <" + text + ">", x.count(0), 0);
-    }
-
-    private static void fine(String text) {
-        MastSparks x = new MastSparks();
-        due("why of <" + text + ">", tell(x, text), 0);
-        due("fault of <" + text + ">", x.fault(), MastSparks.NONE);
+        end("PromiseTest");
     }
 
     // Promise 1
