@@ -34,6 +34,7 @@ public final class BoundsOfChangesTest extends Checks {
         notInAnImage();
         count();
         countFull();
+        lastCall();
         end("BoundsOfChangesTest");
     }
 
@@ -224,6 +225,8 @@ public final class BoundsOfChangesTest extends Checks {
         due("both in one SECOND, for 0", x.safe(4, 0, 0), true);
         due("both in one SECOND, for 1", x.safe(4, 0, 1), false);
         due("DOWN behind SECOND 99", x.safe(5, 0, 99), true);
+        due("DOWN behind SECOND 99, BEGAN late",
+                with("leak 3 1 from 0;spark 3 if second=50;" + SINKS + "set 9 101;").safe(0, 0, 99), true);
     }
 
     /** Promises 22 to 24, "SECONDS (0 to 99)". */
@@ -504,6 +507,7 @@ public final class BoundsOfChangesTest extends Checks {
         x.fill(0, 5);
         x.set(9, 5);
         x.weigh(0, 5);
+        due("a RUN of now", x.state(1, 0, 5), 6998);
         due("back to full", x.restore(), 1);
         due("years, too", x.odds(0), odds);
         due("gas, too", x.state(1, 0, 5), 7992);
@@ -599,5 +603,21 @@ public final class BoundsOfChangesTest extends Checks {
         for (int i = 0; i < 6; i++) {
             due("count " + i, x.count(i), most[i]);
         }
+    }
+
+    /** "An object is used for at most 512 calls": the 512th of them is as good as the first. */
+    private static void lastCall() {
+        MastSparks x = new MastSparks();
+        for (int i = 0; i < 127; i++) {
+            x.feed(0x73657420, 0x3920373b, 0x73657420, 0x3920393b, i);
+            due("a FAULT", x.why(20), -9);
+            due("its place", x.fault(), 16);
+            due("HEIGHT", x.set(9, i), i == 0 ? 90 : i - 1);
+        }
+        // 508 calls are made.
+        x.feed(0x73657420, 0x3920373b, 0x73657420, 0x3920393b, 0x20202020);
+        due("a WHY", x.why(20), 0);
+        due("its HEIGHT", x.state(0, 0, 4), 9);
+        due("the 512th", x.count(19), 126);
     }
 }

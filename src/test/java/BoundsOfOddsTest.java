@@ -366,6 +366,10 @@ public final class BoundsOfOddsTest extends Checks {
         }
         due("by the last of ten", all.moved(0, 9), 500);
         due("by the first of ten", all.moved(0, 0), 0);
+        MastSparks burnt = with(BURNS, "");
+        burnt.row(0, 0, 3, 1, 4);
+        burnt.before(0, 0);
+        due("with LANDINGS before both times", burnt.moved(0, 0), 60 * 1000 / 100 - 5 * 1000 / 15);
         MastSparks alone = with("");
         alone.row(0, 0, 3, 0, 3);
         due("a WHY alone", alone.moved(0, 0), 0);

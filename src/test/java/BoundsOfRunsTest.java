@@ -151,6 +151,8 @@ public final class BoundsOfRunsTest extends Checks {
         due("from SECOND 0 on", x.cell(1, 0, 2, 1), 7);
         due("ahead of 99", x.cell(2, 98, 2, 1), 0);
         due("in 99", x.cell(2, 99, 2, 1), 7);
+        due("all gas behind S", x.state(0, 6, 5), 786);
+        due("all gas at last", x.state(0, 99, 5), 700);
         due("the others have nothing", x.cell(1, 99, 1, 1) + x.cell(1, 99, 3, 1), 0);
     }
 
@@ -210,6 +212,7 @@ public final class BoundsOfRunsTest extends Checks {
         due("no gas that could leak", x.run(2, 0), NONE);
         x.fill(3, 1);
         due("one part of gas", x.run(2, 0), 0);
+        due("wherever the leak stands", with("spark 3 if 1=1;leak 3 1 from 0;").run(0, 0), 0);
     }
 
     /** (d) "if C holds (by what is so now)": behind wet, gap and leaks of the SECOND, ahead of its sinking. */
@@ -536,6 +539,8 @@ public final class BoundsOfRunsTest extends Checks {
         due("none while they lead early enough", x.dry(5), 0);
         x.set(0, 0);
         due("no RAIN: LEADS 0 leads all the same", x.dry(2), 1);
+        x.set(0, 1);
+        due("RAIN 1: wet is 100 in SECOND 99", x.dry(2), 101);
         x.set(0, 12);
         due("996 is wet in time", x.dry(3), 997);
         x.set(0, 9);

@@ -182,6 +182,8 @@ public final class BoundsOfTextsTest extends Checks {
         fine("set 9 " + "0".repeat(291) + "77;");
         faultDue("set 9 " + "7".repeat(293) + ";", 2, 6);
         faultDue("x".repeat(300), 1, 0);
+        faultDue(";".repeat(300), 1, 0);
+        faultDue(";1".repeat(150), 1, 0);
         faultDue("set 9 77;" + "x".repeat(291), 1, 9);
     }
 
@@ -241,6 +243,9 @@ public final class BoundsOfTextsTest extends Checks {
         faultDue("spark 3 if 1<(2+10000);", 2, 16);
         faultDue("spark 3 if 1<2*10000;", 2, 15);
         faultDue("spark 3 if 1<-1;", 1, 13);
+        faultDue("spark 3 if 1<99990;", 2, 13);
+        faultDue("spark 3 if 1<99999;", 2, 13);
+        faultDue("spark 3 if 1<99980;", 2, 13);
         // What a narrower number would wrap to 1.
         faultDue("spark 3 if 1<65537;", 2, 13);
         faultDue("spark 3 if 1<4294967297;", 2, 13);
