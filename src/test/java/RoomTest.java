@@ -15,7 +15,7 @@ public final class RoomTest {
         long start = threads.getCurrentThreadAllocatedBytes();
         MastSparks x = full();
         long made = threads.getCurrentThreadAllocatedBytes();
-        for (int i = 0; i < 5; i++) {
+        for (int i = 0; i < 4; i++) {
             dearCalls(x);
         }
         long called = threads.getCurrentThreadAllocatedBytes();
